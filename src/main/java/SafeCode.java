@@ -1785,6 +1785,10 @@ public final class SafeCode {
             }
         }
 
+        long plus(long a, int n) {
+            return around((long) lowest(a) + n, (long) highest(a) + n);
+        }
+
         long negative(long a) {
             return around(-(long) highest(a), -(long) lowest(a));
         }
@@ -2105,7 +2109,15 @@ public final class SafeCode {
             states.enter(program.bodies.start[main], program.bodies.locals[main], STACK, 0, 0L);
             boolean busy = true;
             for (int round = 0; round < MANY_ROUNDS && busy; round++) {
-                busy = sweep();
+                busy = false;
+                for (int i = 0; i < program.count; i++) {
+                    if (states.waiting[i]) {
+                        states.waiting[i] = false;
+                        busy = true;
+                        look(i);
+                    }
+                }
+                wakeUsers();
             }
         }
 
@@ -2127,26 +2139,11 @@ public final class SafeCode {
             }
         }
 
-        /** Looks once at each instruction that waits; false if none did. */
-        private boolean sweep() {
-            boolean busy = false;
-            store.fieldsChanged = false;
-            store.arraysChanged = false;
-            store.bodiesChanged = false;
-            for (int i = 0; i < program.count; i++) {
-                if (states.waiting[i]) {
-                    states.waiting[i] = false;
-                    busy = true;
-                    look(i);
-                }
-            }
-            if (store.fieldsChanged || store.arraysChanged || store.bodiesChanged) {
-                wakeUsers();
-            }
-            return busy;
-        }
-
+        /** What uses something that has changed beside the states is looked at again. */
         private void wakeUsers() {
+            if (!store.fieldsChanged && !store.arraysChanged && !store.bodiesChanged) {
+                return;
+            }
             for (int i = 0; i < program.count; i++) {
                 int op = program.op[i];
                 boolean uses = op == GET && store.fieldsChanged
@@ -2156,6 +2153,9 @@ public final class SafeCode {
                     states.waiting[i] = true;
                 }
             }
+            store.fieldsChanged = false;
+            store.arraysChanged = false;
+            store.bodiesChanged = false;
         }
 
         private void bring(int i) {
@@ -2164,23 +2164,65 @@ public final class SafeCode {
 
         private void look(int i) {
             int op = program.op[i];
+            boolean on = false;
             bring(i);
             raised = REACHED;
             loose = 0L;
             moved = false;
-            if (op <= SWAP) {
-                lookAtMove(i, op);
-            } else if (op <= NEG) {
-                lookAtNumbers(i, op);
-            } else if (op <= OTHER) {
-                lookAtJump(i, op);
-            } else if (op <= IS) {
-                lookAtObject(i, op);
+            if (op >= EQ && op <= GE) {
+                lookAtWay(i, program.first[i], op);
+                lookAtWay(i, i + 1, contrary(op));
+            } else if (op == ISNULL || op == NOTNULL) {
+                lookAtNullWay(i, program.first[i], op == ISNULL);
+                lookAtNullWay(i, i + 1, op == NOTNULL);
+            } else if (op == SAME || op == OTHER) {
+                lookAtSameWay(i, program.first[i], op == SAME);
+                lookAtSameWay(i, i + 1, op == OTHER);
+            } else if (op == CALL || op == SEND) {
+                on = calls(i, op);
+            } else if (op >= ADD && op <= NEG) {
+                on = calculates(op);
+            } else if (op == ALOAD || op == ASTORE) {
+                on = usesElement(op);
             } else {
-                lookAtRest(i, op);
+                on = goesOn(i, op);
+            }
+            if (on) {
+                goOn(op == GOTO ? program.first[i] : i + 1);
             }
             found[i] = moved ? raised : raised | GOES_NOWHERE;
             throwLoose(i);
+        }
+
+        /** Works on the state as the instruction does; whether it goes on then. */
+        private boolean goesOn(int i, int op) {
+            switch (op) {
+                case GOTO:
+                    return true;
+                case NEW:
+                    return makesObject(i);
+                case ARRAY:
+                    return makesArray(i);
+                case LENGTH:
+                    return tellsLength();
+                case GET:
+                case PUT:
+                    return usesField(i, op);
+                case CAST:
+                    return casts(i);
+                case IS:
+                    return tellsType(i);
+                case THROW:
+                    return throwsSites();
+                case GIVE:
+                case BACK:
+                    return endsBody(i, op);
+                case READ:
+                    states.push(Ranges.ALL, INT_KIND);
+                    return true;
+                default:
+                    return moves(i, op);
+            }
         }
 
         private void goOn(int i) {
@@ -2212,7 +2254,7 @@ public final class SafeCode {
             store.addThrown(b, left);
         }
 
-        private void lookAtMove(int i, int op) {
+        private boolean moves(int i, int op) {
             int a = program.first[i];
             int top = states.fromTop(0);
             switch (op) {
@@ -2231,23 +2273,23 @@ public final class SafeCode {
                 case INC:
                     int n = program.second[i];
                     states.change(a);
-                    states.value[a] = ranges.calculate(ADD, states.value[a], Ranges.pack(n, n));
+                    states.value[a] = ranges.plus(states.value[a], n);
                     states.fact[a] = INT_KIND;
                     break;
                 case DUP:
                     states.push(states.value[top], states.fact[top]);
                     break;
-                case POP:
-                    states.drop(1);
-                    break;
-                default:
+                case SWAP:
                     states.swap();
                     break;
+                default:
+                    states.drop(1);
+                    break;
             }
-            goOn(i + 1);
+            return true;
         }
 
-        private void lookAtNumbers(int i, int op) {
+        private boolean calculates(int op) {
             int b = states.fromTop(0);
             long given;
             if (op == NEG) {
@@ -2262,33 +2304,8 @@ public final class SafeCode {
                 given = ranges.calculate(op, states.value[b - 1], right);
                 states.drop(2);
             }
-            if (!Ranges.isNothing(given)) {
-                states.push(given, INT_KIND);
-                goOn(i + 1);
-            }
-        }
-
-        private void lookAtJump(int i, int op) {
-            int target = program.first[i];
-            switch (op) {
-                case GOTO:
-                    goOn(target);
-                    break;
-                case ISNULL:
-                case NOTNULL:
-                    lookAtNullWay(i, target, op == ISNULL);
-                    lookAtNullWay(i, i + 1, op == NOTNULL);
-                    break;
-                case SAME:
-                case OTHER:
-                    lookAtSameWay(i, target, op == SAME);
-                    lookAtSameWay(i, i + 1, op == OTHER);
-                    break;
-                default:
-                    lookAtWay(i, target, op);
-                    lookAtWay(i, i + 1, contrary(op));
-                    break;
-            }
+            states.push(given, INT_KIND);
+            return !Ranges.isNothing(given);
         }
 
         private static int contrary(int op) {
@@ -2388,35 +2405,7 @@ public final class SafeCode {
             return !Ranges.isNothing(left) && !Ranges.isNothing(right);
         }
 
-        private void lookAtObject(int i, int op) {
-            switch (op) {
-                case NEW:
-                    lookAtNew(i);
-                    break;
-                case ARRAY:
-                    lookAtArray(i);
-                    break;
-                case LENGTH:
-                    lookAtLength(i);
-                    break;
-                case ALOAD:
-                case ASTORE:
-                    lookAtElement(i, op);
-                    break;
-                case GET:
-                case PUT:
-                    lookAtField(i, op);
-                    break;
-                case CAST:
-                    lookAtCast(i);
-                    break;
-                default:
-                    lookAtIs(i);
-                    break;
-            }
-        }
-
-        private void lookAtNew(int i) {
+        private boolean makesObject(int i) {
             Classes classes = program.classes;
             int site = program.second[i];
             for (int f = 0; f < classes.fieldCount; f++) {
@@ -2426,10 +2415,10 @@ public final class SafeCode {
                 }
             }
             states.push(1L << site, REF_KIND);
-            goOn(i + 1);
+            return true;
         }
 
-        private void lookAtArray(int i) {
+        private boolean makesArray(int i) {
             int s = states.fromTop(0);
             long size = states.value[s];
             int copy = States.copyOf(states.fact[s]);
@@ -2438,13 +2427,14 @@ public final class SafeCode {
             if (Ranges.lowest(size) < 0) {
                 raise(SIZE_ERROR);
             }
-            if (Ranges.highest(size) >= 0) {
-                store.addLengths(site, Ranges.pack(Math.max(Ranges.lowest(size), 0), Ranges.highest(size)));
-                store.addElement(site, number ? 0L : NULL_BIT, number);
-                states.drop(1);
-                states.push(1L << site, copy < 0 ? REF_KIND : REF_KIND | 1L << SIZED_SHIFT + copy);
-                goOn(i + 1);
+            if (Ranges.highest(size) < 0) {
+                return false;
             }
+            store.addLengths(site, Ranges.pack(Math.max(Ranges.lowest(size), 0), Ranges.highest(size)));
+            store.addElement(site, number ? 0L : NULL_BIT, number);
+            states.drop(1);
+            states.push(1L << site, copy < 0 ? REF_KIND : REF_KIND | 1L << SIZED_SHIFT + copy);
+            return true;
         }
 
         /** Whether there is a way on behind the use of what the slot means. */
@@ -2466,25 +2456,23 @@ public final class SafeCode {
             return all;
         }
 
-        private void lookAtLength(int i) {
+        private boolean tellsLength() {
             int r = states.fromTop(0);
             int copy = States.copyOf(states.fact[r]);
             if (!dereference(r)) {
-                return;
+                return false;
             }
             long all = lengthsOf(states.value[r]);
-            if (!Ranges.isNothing(all)) {
-                states.drop(1);
-                states.push(all, copy < 0 ? INT_KIND : INT_KIND | 1L << LENGTH_SHIFT + copy);
-                goOn(i + 1);
-            }
+            states.drop(1);
+            states.push(all, copy < 0 ? INT_KIND : INT_KIND | 1L << LENGTH_SHIFT + copy);
+            return !Ranges.isNothing(all);
         }
 
-        private void lookAtElement(int i, int op) {
+        private boolean usesElement(int op) {
             int r = states.fromTop(op == ALOAD ? 1 : 2);
             int x = r + 1;
             if (!dereference(r)) {
-                return;
+                return false;
             }
             long all = lengthsOf(states.value[r]);
             if (!staysInside(r, x, all)) {
@@ -2494,13 +2482,9 @@ public final class SafeCode {
             int copy = States.copyOf(states.fact[r]);
             long under = copy < 0 ? 0L : 1L << UNDER_SHIFT + copy;
             if (Ranges.isNothing(all) || Ranges.isNothing(inside) || !states.narrow(x, inside, under)) {
-                return;
+                return false;
             }
-            if (op == ALOAD) {
-                takeElement(i, r);
-            } else {
-                putElement(i, r);
-            }
+            return op == ALOAD ? takesElement(r) : putsElement(r);
         }
 
         private boolean staysInside(int r, int x, long all) {
@@ -2514,7 +2498,7 @@ public final class SafeCode {
             return under || sized || Ranges.highest(states.value[x]) < Ranges.lowest(all);
         }
 
-        private void takeElement(int i, int r) {
+        private boolean takesElement(int r) {
             long sites = states.value[r];
             int any = Long.numberOfTrailingZeros(sites);
             boolean number = any < program.siteCount && program.siteType[any] == T_INTS;
@@ -2524,20 +2508,17 @@ public final class SafeCode {
                     held = Store.join(held, store.elements[s], number);
                 }
             }
-            leaveValue(i, 2, held, number);
+            return leavesValue(2, held, number);
         }
 
-        /** Takes n slots, leaves the value and goes on, if there is any yet. */
-        private void leaveValue(int i, int n, long v, boolean number) {
-            boolean some = number ? !Ranges.isNothing(v) : v != 0L;
-            if (some) {
-                states.drop(n);
-                states.push(v, number ? INT_KIND : REF_KIND);
-                goOn(i + 1);
-            }
+        /** Takes n slots and leaves the value, if there is any yet. */
+        private boolean leavesValue(int n, long v, boolean number) {
+            states.drop(n);
+            states.push(v, number ? INT_KIND : REF_KIND);
+            return number ? !Ranges.isNothing(v) : v != 0L;
         }
 
-        private void putElement(int i, int r) {
+        private boolean putsElement(int r) {
             long sites = states.value[r];
             long v = states.value[r + 2];
             boolean number = (states.fact[r + 2] & INT_KIND) != 0L;
@@ -2552,18 +2533,16 @@ public final class SafeCode {
                     store.addElement(s, held, number);
                 }
             }
-            if (some) {
-                states.drop(3);
-                goOn(i + 1);
-            }
+            states.drop(3);
+            return some;
         }
 
-        private void lookAtField(int i, int op) {
+        private boolean usesField(int i, int op) {
             int f = program.first[i];
             boolean number = program.classes.fieldType[f] == T_INT;
             int r = states.fromTop(op == GET ? 0 : 1);
             if (!dereference(r)) {
-                return;
+                return false;
             }
             long sites = states.value[r];
             long held = Store.nothing(number);
@@ -2575,64 +2554,39 @@ public final class SafeCode {
                 }
             }
             if (op == GET) {
-                leaveValue(i, 1, held, number);
-            } else {
-                states.drop(2);
-                goOn(i + 1);
+                return leavesValue(1, held, number);
             }
+            states.drop(2);
+            return true;
         }
 
-        private void lookAtCast(int i) {
+        private boolean casts(int i) {
             int s = states.fromTop(0);
             long kept = states.value[s] & (suiting[i] | NULL_BIT);
             if (kept != states.value[s]) {
                 raise(CAST_ERROR);
             }
-            if (kept != 0L && states.keepSites(s, kept)) {
-                states.value[s] = kept;
-                goOn(i + 1);
-            }
+            states.value[s] = kept;
+            return kept != 0L && states.keepSites(s, kept);
         }
 
-        private void lookAtIs(int i) {
+        private boolean tellsType(int i) {
             long v = states.value[states.fromTop(0)];
             boolean yes = (v & suiting[i]) != 0L;
             boolean no = (v & ~suiting[i]) != 0L;
-            if (yes || no) {
-                states.drop(1);
-                states.push(Ranges.pack(no ? 0 : 1, yes ? 1 : 0), INT_KIND);
-                goOn(i + 1);
-            }
+            states.drop(1);
+            states.push(Ranges.pack(no ? 0 : 1, yes ? 1 : 0), INT_KIND);
+            return yes || no;
         }
 
-        private void lookAtRest(int i, int op) {
-            switch (op) {
-                case CALL:
-                case SEND:
-                    lookAtCall(i, op);
-                    break;
-                case THROW:
-                    lookAtThrow();
-                    break;
-                case GIVE:
-                    int b = program.bodyOf[i];
-                    store.addEnd(b, states.value[states.fromTop(0)], program.bodies.result[b] == T_INT);
-                    break;
-                case BACK:
-                    store.addEnd(program.bodyOf[i], 0L, false);
-                    break;
-                case READ:
-                    states.push(Ranges.ALL, INT_KIND);
-                    goOn(i + 1);
-                    break;
-                default:
-                    states.drop(1);
-                    goOn(i + 1);
-                    break;
-            }
+        private boolean endsBody(int i, int op) {
+            int b = program.bodyOf[i];
+            boolean gives = op == GIVE;
+            store.addEnd(b, gives ? states.value[states.fromTop(0)] : 0L, gives && program.bodies.result[b] == T_INT);
+            return false;
         }
 
-        private void lookAtThrow() {
+        private boolean throwsSites() {
             long v = states.value[states.fromTop(0)];
             if ((v & NULL_BIT) != 0L) {
                 raise(NULL_ERROR);
@@ -2641,9 +2595,10 @@ public final class SafeCode {
                 raised |= THROWS_SITES;
                 loose |= v & SITE_BITS;
             }
+            return false;
         }
 
-        private void lookAtCall(int i, int op) {
+        private boolean calls(int i, int op) {
             int body = program.first[i];
             int arity = program.bodies.arity[body];
             int low = STACK + states.height - arity;
@@ -2653,31 +2608,26 @@ public final class SafeCode {
             if (op == CALL) {
                 enterBody(body, low, 0L, type == T_INT);
             } else if (dereference(low)) {
-                sendToSites(body, low, type == T_INT);
-            }
-            if (comesBack) {
-                states.drop(arity);
-                if (type != T_NONE) {
-                    states.push(result, type == T_INT ? INT_KIND : REF_KIND);
-                }
-                goOn(i + 1);
-            }
-        }
-
-        private void sendToSites(int body, int low, boolean number) {
-            long sites = states.value[low];
-            for (int s = 0; s < program.siteCount; s++) {
-                if ((sites >>> s & 1L) != 0L) {
-                    int meant = program.bodies.running(Classes.classOf(program.siteType[s]), body);
-                    if (meant >= 0) {
-                        enterBody(meant, low, 1L << s, number);
+                long sites = states.value[low];
+                for (int s = 0; s < program.siteCount; s++) {
+                    if ((sites >>> s & 1L) != 0L) {
+                        int meant = program.bodies.running(Classes.classOf(program.siteType[s]), body);
+                        enterBody(meant, low, 1L << s, type == T_INT);
                     }
                 }
             }
+            states.drop(arity);
+            if (type != T_NONE) {
+                states.push(result, type == T_INT ? INT_KIND : REF_KIND);
+            }
+            return comesBack;
         }
 
         private void enterBody(int b, int low, long object, boolean number) {
             Bodies bodies = program.bodies;
+            if (b < 0) {
+                return;
+            }
             states.enter(bodies.start[b], bodies.locals[b], low, bodies.arity[b], object);
             if (store.thrownBy[b] != 0L) {
                 raised |= CALLS_THROWER;
@@ -2741,7 +2691,11 @@ public final class SafeCode {
                 } else {
                     stepCount++;
                     stray = !isAsProved();
-                    perform(at[depth]);
+                    int i = at[depth];
+                    int thrown = perform(i);
+                    if (thrown != 0) {
+                        throwObject(i, thrown);
+                    }
                     strayCount += stray ? 1 : 0;
                 }
             }
@@ -2759,25 +2713,52 @@ public final class SafeCode {
             heights[depth] = 0;
         }
 
-        private void perform(int i) {
+        /** Does one step: the object that it throws, or 0. */
+        private int perform(int i) {
             int op = program.op[i];
             if (op <= SWAP) {
-                move(i, op);
-            } else if (op <= NEG) {
-                calculate(i, op);
-            } else if (op <= OTHER) {
-                jump(i, op);
-            } else if (op <= ASTORE) {
-                useArray(i, op);
-            } else if (op <= IS) {
-                useObject(i, op);
-            } else {
-                performRest(i, op);
+                return move(i, op);
+            }
+            if (op <= NEG) {
+                return calculate(i, op);
+            }
+            if (op <= OTHER) {
+                return jump(i, op);
+            }
+            switch (op) {
+                case NEW:
+                    return makeObject(i, program.classes.cells[program.first[i]], 0);
+                case ARRAY:
+                    return numberAt(0) < 0 ? raise(i, SIZE_ERROR) : makeObject(i, numberAt(0), 1);
+                case LENGTH:
+                    return numberAt(0) == 0 ? raise(i, NULL_ERROR) : leave(1, intCell(extentOf(numberAt(0))));
+                case ALOAD:
+                case ASTORE:
+                    return useElement(i, op);
+                case GET:
+                case PUT:
+                    return useField(i, op);
+                case CAST:
+                case IS:
+                    return useType(i, op);
+                case CALL:
+                case SEND:
+                    return enterBody(i, op);
+                case THROW:
+                    return numberAt(0) == 0 ? raise(i, NULL_ERROR) : numberAt(0);
+                case GIVE:
+                case BACK:
+                    return leaveBody(i, op);
+                case READ:
+                    return leave(0, intCell(nextInput()));
+                default:
+                    return write();
             }
         }
 
-        private void next() {
+        private int next() {
             at[depth]++;
+            return 0;
         }
 
         /** The cell that stands there from the top of the stack on, 0 the highest. */
@@ -2809,13 +2790,13 @@ public final class SafeCode {
         }
 
         /** Takes n cells, leaves one and goes on. */
-        private void leave(int n, long cell) {
+        private int leave(int n, long cell) {
             drop(n);
             push(cell);
-            next();
+            return next();
         }
 
-        private void move(int i, int op) {
+        private int move(int i, int op) {
             int local = depth * SLOTS + program.first[i];
             switch (op) {
                 case PUSH:
@@ -2846,20 +2827,18 @@ public final class SafeCode {
                     cells[fromTop(1)] = top;
                     break;
             }
-            next();
+            return next();
         }
 
-        private void calculate(int i, int op) {
+        private int calculate(int i, int op) {
             int b = numberAt(0);
             if (op == NEG) {
-                leave(1, intCell(-b));
-                return;
+                return leave(1, intCell(-b));
             }
             if ((op == DIV || op == REM) && b == 0) {
-                raise(i, DIVIDE_ERROR);
-                return;
+                return raise(i, DIVIDE_ERROR);
             }
-            leave(2, intCell(calculated(op, numberAt(1), b)));
+            return leave(2, intCell(calculated(op, numberAt(1), b)));
         }
 
         private static int calculated(int op, int a, int b) {
@@ -2877,10 +2856,11 @@ public final class SafeCode {
             }
         }
 
-        private void jump(int i, int op) {
+        private int jump(int i, int op) {
             boolean jumps = op == GOTO || holds(op, op == ISNULL || op == NOTNULL ? 0 : numberAt(1), numberAt(0));
             drop(TAKES[op]);
             at[depth] = jumps ? program.first[i] : i + 1;
+            return 0;
         }
 
         private static boolean holds(int op, int a, int b) {
@@ -2912,16 +2892,15 @@ public final class SafeCode {
             return objects;
         }
 
-        private void raise(int i, int error) {
+        /** The error that an instruction raises; 0 if there is no room for it. */
+        private int raise(int i, int error) {
             if ((proof.found[i] >>> error & 1) == 0) {
                 stray = true;
             }
-            int made = make(i, MAX_SITES + error, 0);
-            if (made != 0) {
-                throwObject(i, made);
-            }
+            return make(i, MAX_SITES + error, 0);
         }
 
+        /** Goes on at the first catch that takes the object, in the body that runs or one that called it. */
         private void throwObject(int i, int ref) {
             int site = siteOf[ref - 1];
             for (int n = 0; n < MAX_DEPTH; n++) {
@@ -2959,175 +2938,108 @@ public final class SafeCode {
             return baseOf[ref] - baseOf[ref - 1];
         }
 
-        private void useArray(int i, int op) {
-            switch (op) {
-                case NEW:
-                    makeObject(i, program.classes.cells[program.first[i]], 0);
-                    break;
-                case ARRAY:
-                    if (numberAt(0) < 0) {
-                        raise(i, SIZE_ERROR);
-                    } else {
-                        makeObject(i, numberAt(0), 1);
-                    }
-                    break;
-                case LENGTH:
-                    if (numberAt(0) == 0) {
-                        raise(i, NULL_ERROR);
-                    } else {
-                        leave(1, intCell(extentOf(numberAt(0))));
-                    }
-                    break;
-                default:
-                    useElement(i, op);
-                    break;
-            }
-        }
-
-        private void makeObject(int i, int extent, int taken) {
+        private int makeObject(int i, int extent, int taken) {
             int made = make(i, program.second[i], extent);
-            if (made != 0) {
-                leave(taken, refCell(made));
-            }
+            return made == 0 ? 0 : leave(taken, refCell(made));
         }
 
-        private void useElement(int i, int op) {
+        private int useElement(int i, int op) {
             int n = op == ALOAD ? 1 : 2;
             int array = numberAt(n);
             int index = numberAt(n - 1);
             if (array == 0) {
-                raise(i, NULL_ERROR);
-                return;
+                return raise(i, NULL_ERROR);
             }
             if (index < 0 || index >= extentOf(array)) {
-                raise(i, INDEX_ERROR);
-                return;
+                return raise(i, INDEX_ERROR);
             }
             int cell = baseOf[array - 1] + index;
-            boolean number = typeOf(array) == T_INTS;
+            int element = Classes.element(typeOf(array));
             if (op == ALOAD) {
-                leave(2, number ? intCell(heap[cell]) : refCell(heap[cell]));
-                return;
+                return leave(2, element == T_INT ? intCell(heap[cell]) : refCell(heap[cell]));
             }
             int v = numberAt(0);
-            if (!number && v != 0 && !program.classes.isBelow(typeOf(v), Classes.element(typeOf(array)))) {
-                raise(i, STORE_ERROR);
-                return;
+            if (element != T_INT && v != 0 && !program.classes.isBelow(typeOf(v), element)) {
+                return raise(i, STORE_ERROR);
             }
             heap[cell] = v;
             drop(3);
-            next();
+            return next();
         }
 
-        private void useObject(int i, int op) {
-            int top = numberAt(0);
-            boolean fits = (op == CAST || op == IS) && top != 0 && program.classes.isBelow(typeOf(top), program.first[i]);
-            switch (op) {
-                case GET:
-                case PUT:
-                    useField(i, op);
-                    break;
-                case CAST:
-                    if (top == 0 || fits) {
-                        next();
-                    } else {
-                        raise(i, CAST_ERROR);
-                    }
-                    break;
-                default:
-                    leave(1, intCell(fits ? 1 : 0));
-                    break;
-            }
-        }
-
-        private void useField(int i, int op) {
+        private int useField(int i, int op) {
             int f = program.first[i];
             int object = numberAt(op == GET ? 0 : 1);
             if (object == 0) {
-                raise(i, NULL_ERROR);
-                return;
+                return raise(i, NULL_ERROR);
             }
             int cell = baseOf[object - 1] + program.classes.fieldPlace[f];
             if (op == GET) {
                 boolean number = program.classes.fieldType[f] == T_INT;
-                leave(1, number ? intCell(heap[cell]) : refCell(heap[cell]));
-                return;
+                return leave(1, number ? intCell(heap[cell]) : refCell(heap[cell]));
             }
             heap[cell] = numberAt(0);
             drop(2);
-            next();
+            return next();
         }
 
-        private void performRest(int i, int op) {
-            switch (op) {
-                case CALL:
-                case SEND:
-                    enter(i, op);
-                    break;
-                case THROW:
-                    if (numberAt(0) == 0) {
-                        raise(i, NULL_ERROR);
-                    } else {
-                        throwObject(i, numberAt(0));
-                    }
-                    break;
-                case GIVE:
-                case BACK:
-                    leaveBody(i, op);
-                    break;
-                case READ:
-                    push(intCell(readNext < input.length ? input[readNext] : 0));
-                    readNext++;
-                    next();
-                    break;
-                default:
-                    write(numberAt(0));
-                    drop(1);
-                    next();
-                    break;
+        private int useType(int i, int op) {
+            int ref = numberAt(0);
+            boolean fits = ref != 0 && program.classes.isBelow(typeOf(ref), program.first[i]);
+            if (op == IS) {
+                return leave(1, intCell(fits ? 1 : 0));
             }
+            return ref == 0 || fits ? next() : raise(i, CAST_ERROR);
         }
 
-        private void write(int v) {
+        private int nextInput() {
+            int v = readNext < input.length ? input[readNext] : 0;
+            readNext++;
+            return v;
+        }
+
+        private int write() {
             if (outputCount < MAX_OUTPUT) {
-                output[outputCount] = v;
+                output[outputCount] = numberAt(0);
             }
             outputCount++;
+            drop(1);
+            return next();
         }
 
-        private void enter(int i, int op) {
+        private int enterBody(int i, int op) {
             int b = program.first[i];
             int arity = program.bodies.arity[b];
             if (op == SEND) {
                 int object = numberAt(arity - 1);
                 if (object == 0) {
-                    raise(i, NULL_ERROR);
-                    return;
+                    return raise(i, NULL_ERROR);
                 }
                 b = program.bodies.running(Classes.classOf(typeOf(object)), b);
             }
             if (b < 0 || depth + 1 >= MAX_DEPTH) {
                 finish(TOO_DEEP, i);
-                return;
+                return 0;
             }
             drop(arity);
             int given = fromTop(0) + 1;
             depth++;
             beginBody(b);
             System.arraycopy(cells, given, cells, depth * SLOTS, arity);
+            return 0;
         }
 
-        private void leaveBody(int i, int op) {
+        private int leaveBody(int i, int op) {
             if (depth == 0) {
                 finish(BACK_IN_MAIN, i);
-                return;
+                return 0;
             }
             long given = cells[fromTop(0)];
             depth--;
             if (op == GIVE) {
                 push(given);
             }
-            next();
+            return next();
         }
 
         /** Whether the state of the instruction that is next tells what it meets. */
