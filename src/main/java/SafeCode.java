@@ -1766,7 +1766,9 @@ public final class SafeCode {
             long c = lowest(other);
             long l = lowest(range);
             long h = highest(range);
-            return cut(range, l == c ? l + 1L : l, h == c ? h - 1L : h);
+            l = l == c ? l + 1L : l;
+            h = h == c ? h - 1L : h;
+            return l > h ? NOTHING : around(l, h);
         }
 
         /** What a calculation can give; NOTHING if it can't give anything. */
