@@ -1441,7 +1441,9 @@ public final class SafeCode {
         private int wrongHeight(int b) {
             int start = program.bodies.start[b];
             int end = program.bodies.end[b];
-            Arrays.fill(heights, start, end, 0);
+            for (int i = start; i < end; i++) {
+                heights[i] = 0;
+            }
             heights[start] = 1;
             changed = true;
             for (int round = 0; round < MANY_ROUNDS && changed; round++) {
@@ -2710,7 +2712,9 @@ public final class SafeCode {
         }
 
         private void beginBody(int b) {
-            Arrays.fill(cells, depth * SLOTS, (depth + 1) * SLOTS, 0L);
+            for (int s = 0; s < SLOTS; s++) {
+                cells[depth * SLOTS + s] = 0L;
+            }
             at[depth] = program.bodies.start[b];
             heights[depth] = 0;
         }
@@ -2887,7 +2891,9 @@ public final class SafeCode {
                 finish(HEAP_FULL, i);
                 return 0;
             }
-            Arrays.fill(heap, base, base + extent, 0);
+            for (int k = 0; k < extent; k++) {
+                heap[base + k] = 0;
+            }
             siteOf[objects] = site;
             objects++;
             baseOf[objects] = base + extent;

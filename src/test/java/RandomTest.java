@@ -8,19 +8,24 @@ final class RandomTest {
     private static int wrong;
     private static int right;
     private static int loaded;
+    private static Oracle last;
     private static final int[] faults = new int[5];
     private static final int[] outcomes = new int[5];
 
     public static void main(String[] args) {
-        int many = args.length > 0 ? Integer.parseInt(args[0]) : 1500;
+        int many = args.length > 0 ? Integer.parseInt(args[0]) : 1000;
         int from = args.length > 1 ? Integer.parseInt(args[1]) : 1;
         for (int seed = from; seed < from + many && wrong < 10; seed++) {
             Texts texts = new Texts(seed);
             String text = texts.program();
             SafeCode x = new SafeCode();
+            last = null;
             hold(x, text, seed);
             for (int k = 0; k < 3; k++) {
                 hold(x, texts.spoil(text), seed);
+            }
+            for (int k = 0; k < 10; k++) {
+                hold(x, texts.scribble(), seed);
             }
         }
         System.out.println(right + " answers are as due, " + wrong + " are not; " + loaded + " programs loaded, faults "
@@ -50,11 +55,24 @@ final class RandomTest {
         faults[o.fault]++;
         if (fine && o.fault == 0) {
             loaded++;
+            last = o;
             fine = proofs(x, o, seed) && runs(x, o, seed);
+        } else if (fine) {
+            fine = keeps(x, seed);
         }
         if (!fine) {
             System.out.println(text);
         }
+    }
+
+    /** A fault leaves the program that was there, and what is proved of it. */
+    private static boolean keeps(SafeCode x, int seed) {
+        boolean fine = same("size(0)", x.size(0), last == null ? -1 : last.code.size(), seed);
+        fine &= same("ends()", x.ends(), last == null ? 0 : bits(last.main.throwing), seed);
+        for (int i = 0; last != null && i < last.code.size(); i++) {
+            fine &= same("errors(" + i + ")", x.errors(i), last.code.get(i).state == null ? 0 : last.code.get(i).errors, seed);
+        }
+        return fine;
     }
 
     private static long bits(Set<Integer> set) {

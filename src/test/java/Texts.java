@@ -176,9 +176,12 @@ final class Texts {
         catches.setLength(0);
         for (int k = 0; k < extra; k++) {
             String type = k == 0 ? "int" : anyType();
-            value(type, 1);
+            fresh(type);
             emit("store", given + k);
             locals.add(type);
+        }
+        if (s.name.equals("main")) {
+            callAll();
         }
         lines(3);
         if (s.result.equals("none")) {
@@ -189,6 +192,48 @@ final class Texts {
         }
         out.append(catches);
         out.append("}\n");
+    }
+
+    /** Calls the other bodies, and goes on whatever they throw. */
+    private void callAll() {
+        String at = label();
+        for (Sign s : signs) {
+            if (!s.name.equals("main") && chance(80)) {
+                String from = label();
+                String to = label();
+                emit(from, ":");
+                invoke(s, 1);
+                emit(s.result.equals("none") ? "" : "pop", to, ":");
+                if (chance(70)) {
+                    catches.append("catch ").append(from).append(' ').append(to).append(' ').append(at).append(" Error\n");
+                }
+            }
+        }
+        String end = label();
+        emit("goto", end, at, ":", "pop", end, ":");
+    }
+
+    private void index(int depth) {
+        if (chance(55)) {
+            emit("push", any(List.of("0", "0", "1", "2")));
+        } else if (chance(40)) {
+            emit("read");
+        } else {
+            value("int", depth);
+        }
+    }
+
+    /** A value that is surely there. */
+    private void fresh(String type) {
+        if (type.equals("int")) {
+            emit(chance(40) ? "read" : "push " + number());
+        } else if (type.endsWith("[]")) {
+            emit(chance(30) ? "read push 15 and" : "push " + any(List.of("1", "2", "3", "10", "5")));
+            String element = type.substring(0, type.length() - 2);
+            emit("array", element.equals("int") ? element : lower(element));
+        } else {
+            emit("new", lower(type));
+        }
     }
 
     private void lines(int depth) {
@@ -226,7 +271,7 @@ final class Texts {
     private void line(int depth) {
         int k = below(locals.size());
         String type = locals.get(k);
-        switch (below(depth > 0 ? 18 : 10)) {
+        switch (below(depth > 0 ? 20 : 10)) {
             case 0, 1 -> {
                 value(type, 2);
                 emit("store", k);
@@ -245,17 +290,17 @@ final class Texts {
             case 7 -> calling();
             case 8 -> noise(k);
             case 9 -> {
-                if (chance(25)) {
-                    value(chance(50) ? "Error" : "NullError", 1);
-                    emit("throw");
+                if (chance(40)) {
                     String l = label();
-                    emit(l, ":");
+                    test(l);
+                    value(chance(50) ? "Error" : "NullError", 1);
+                    emit("throw", l, ":");
                 }
             }
             case 10, 11 -> branch(depth);
             case 12, 13 -> loop(depth);
             case 14, 15 -> filling(depth);
-            case 16 -> attempt(depth);
+            case 16, 17, 18 -> attempt(depth);
             default -> {
                 String out1 = label();
                 test(out1);
@@ -270,7 +315,16 @@ final class Texts {
     }
 
     private void noise(int k) {
-        switch (below(6)) {
+        switch (below(8)) {
+            case 6, 7 -> {
+                emit("load", k);
+                if (locals.get(k).equals("int") && chance(60)) {
+                    emit("inc", k, chance(60) ? "1" : number(), chance(50) ? "neg write" : "write");
+                } else {
+                    fresh(locals.get(k));
+                    emit("store", k, "pop");
+                }
+            }
             case 0 -> emit("load", k, "dup", "pop", "pop");
             case 1 -> emit("load", k, "load", below(locals.size()), "swap", "pop", "pop");
             case 2 -> emit("load", k, "store", k);
@@ -437,14 +491,14 @@ final class Texts {
         int a = any(all);
         String element = locals.get(a).substring(0, locals.get(a).length() - 2);
         emit("load", a);
-        value("int", 1);
+        index(1);
         value(element, 2);
         emit("astore");
     }
 
     private void calling() {
         Sign s = any(signs);
-        if (s.name.equals("main") && chance(90)) {
+        if (signs.indexOf(s) >= signs.indexOf(body) && chance(93)) {
             return;
         }
         invoke(s, 1);
@@ -499,7 +553,7 @@ final class Texts {
                 for (int k : arrays()) {
                     if (isBelow(locals.get(k).substring(0, locals.get(k).length() - 2), type) && chance(50)) {
                         emit("load", k);
-                        value("int", depth - 1);
+                        index(depth - 1);
                         emit("aload");
                         return true;
                     }
@@ -507,7 +561,8 @@ final class Texts {
             }
             default -> {
                 for (Sign s : signs) {
-                    if (isBelow(s.result, type) && !s.result.equals("none") && chance(30)) {
+                    boolean before = signs.indexOf(s) < signs.indexOf(body);
+                    if (isBelow(s.result, type) && !s.result.equals("none") && chance(before ? 40 : 2)) {
                         invoke(s, depth);
                         return true;
                     }
@@ -558,30 +613,27 @@ final class Texts {
     }
 
     private void refValue(String type, int depth) {
-        if (chance(12)) {
+        if (chance(5)) {
             emit("null");
-            return;
-        }
-        if (depth > 0 && chance(15)) {
-            value("Object", depth - 1);
+        } else if (depth > 0 && chance(15)) {
+            value(chance(15) ? "Object" : over(type), depth - 1);
             emit("cast", type);
-            return;
-        }
-        if (type.endsWith("[]")) {
+        } else if (type.endsWith("[]") && chance(40)) {
             String element = type.substring(0, type.length() - 2);
-            if (chance(50)) {
-                emit("push", any(List.of("0", "1", "2", "3", "10", "5", "-1")));
-            } else {
-                value("int", depth - 1);
-            }
+            value("int", depth - 1);
             emit("array", element.equals("int") ? element : lower(element));
-            return;
-        }
-        if (type.equals("Object") && chance(20)) {
+        } else if (type.equals("Object") && chance(20)) {
             emit("push", "3", "array", chance(50) ? "int" : anyClass());
-            return;
+        } else {
+            fresh(type);
         }
-        emit("new", lower(type));
+    }
+
+    /** The type, or one right above it. */
+    private String over(String type) {
+        String plain = type.replace("[]", "");
+        int up = plain.equals("int") ? -1 : ups.get(classes.indexOf(plain));
+        return up < 0 || chance(40) ? type : type.replace(plain, classes.get(up));
     }
 
     /** The class, or one below it. */
@@ -654,5 +706,88 @@ final class Texts {
             spoilt = spoilt.substring(0, p) + c + spoilt.substring(p);
         }
         return spoilt;
+    }
+
+    private String one(String words) {
+        String[] all = words.split(" ");
+        return all[below(all.length)];
+    }
+
+    private String smallType() {
+        return one("int int A B A[] B[] int[] Object Error E Object[]");
+    }
+
+    /** A text of the right form with few names: mostly its types, sometimes its names are wrong somewhere. */
+    String scribble() {
+        out = new StringBuilder();
+        emit("class", "A", "of", chance(95) ? "Object" : "Error", "{", "field", "f", "int", "field", "g", smallType());
+        if (chance(5)) {
+            emit("field", one("f g h k"), smallType());
+        }
+        scribbleBody("method", "m", "( int A )", "int", "4");
+        scribbleBody("static", "n", "( int A )", "int", "4");
+        emit("}", "class", "B", "of", "A", "{");
+        if (chance(20)) {
+            scribbleBody(chance(90) ? "method" : "static", chance(90) ? "m" : one("n o"), "( int A )", chance(95) ? "int" : "none", "4");
+        }
+        emit("}", "class", "E", "of", one("Error Error NullError"), "{", "}", "class", "Main", "of", one("Object A B"), "{");
+        scribbleBody("static", chance(97) ? "main" : "m", "( )", "none", chance(97) ? "4" : one("3 13 -1"));
+        emit("}");
+        return out.toString();
+    }
+
+    private void scribbleBody(String kind, String name, String types, String result, String count) {
+        emit(kind, name, types, result, count, "{");
+        for (int k = types.equals("( )") ? 0 : 3; k < 4; k++) {
+            emit(one("push_1 push_2 null new_A new_B new_E read").replace('_', ' '), "store", k);
+        }
+        int declared = 0;
+        for (int n = 1 + below(9); n > 0; n--) {
+            if (chance(15) && declared < 3) {
+                emit("abc".substring(declared, declared + 1), ":");
+                declared++;
+            }
+            scribbleLine();
+        }
+        for (; declared < 3; declared++) {
+            emit("abc".substring(declared, declared + 1), ":");
+            if (chance(50)) {
+                scribbleLine();
+            }
+        }
+        emit(chance(97) ? result.equals("int") ? "push 1 give" : "back" : one("back throw give dup"));
+        if (chance(15)) {
+            emit("catch", one("a b"), one("b c"), one("a b c"), chance(90) ? one("Error E NullError") : "Object");
+        }
+        emit("}");
+    }
+
+    private String smallNumber() {
+        return one("0 1 2 3 -1 5");
+    }
+
+    private String smallLocal() {
+        return chance(99) ? one("0 1 2 3") : one("4 -1");
+    }
+
+    private void scribbleLine() {
+        String jump = chance(99) ? one("a b c") : "d";
+        switch (below(15)) {
+            case 0 -> emit("push", smallNumber(), one("write pop neg dup"));
+            case 1 -> emit("load", smallLocal(), one("pop write throw"));
+            case 2 -> emit("load", smallLocal(), "store", smallLocal());
+            case 3 -> emit("inc", smallLocal(), smallNumber());
+            case 4 -> emit(one("dup pop swap neg length throw write read null"));
+            case 5 -> emit("load", smallLocal(), "load", smallLocal(), one("add sub mul div rem and or xor shl shr"), one("write pop dup"));
+            case 6 -> emit("load", smallLocal(), "push", smallNumber(), one("eq ne lt le gt ge"), jump);
+            case 7 -> emit("load", smallLocal(), one("isnull notnull"), jump);
+            case 8 -> emit("load", smallLocal(), "get", chance(98) ? one("A.f A.g B.f B.g") : one("E.f Main.q Q.f"), one("pop write length"));
+            case 9 -> emit("load", smallLocal(), "load", smallLocal(), "put", one("A.f A.g B.f B.g"));
+            case 10 -> emit("load", smallLocal(), "load", smallLocal(), chance(97) ? "call A.n" : one("call A.m").replace('_', ' '), one("pop write"));
+            case 11 -> emit("load", smallLocal(), "load", smallLocal(), "load", smallLocal(), "send", one("A.m B.m"), one("pop write"));
+            case 12 -> emit("load", smallLocal(), one("cast is"), one("A B E A[] int[] Object[] Object"), "store", smallLocal());
+            case 13 -> emit("load", smallLocal(), "load", smallLocal(), one("aload same_a other_b add").replace('_', ' '));
+            default -> emit("push", smallNumber(), "array", one("int A B Object"), "store", smallLocal());
+        }
     }
 }
