@@ -435,6 +435,9 @@ public final class SafeCode {
         private final int[] to = new int[MAX_WORDS];
         private final int[] next = new int[MAX_WORDS];
         private final int[] bucket = new int[BUCKETS];
+        // The words that every text knows are kept but once.
+        private final int fixedCount;
+        private final int[] fixedBucket;
         private final byte[] shape = new byte[MAX_WORDS];
         // Of a number its value; of a class name its class; of a name the token where it is a label and the instruction
         // there; of the array of a class the class's word; of a reference the class's word and the name's. -1: none.
@@ -446,6 +449,11 @@ public final class SafeCode {
             n = putFixed(KEYWORDS, n);
             textFrom = putFixed(KNOWN_NAMES, n);
             textTo = textFrom;
+            Arrays.fill(bucket, NO_WORD);
+            cut(0, textFrom);
+            shapeWords(0);
+            fixedCount = count;
+            fixedBucket = bucket.clone();
         }
 
         private int putFixed(String fixed, int at) {
@@ -468,15 +476,14 @@ public final class SafeCode {
 
         /** Cuts the text, which is used up, into tokens; false if it has a byte that none may have. */
         boolean cutText() {
-            Arrays.fill(bucket, NO_WORD);
-            count = 0;
-            tokens = 0;
-            cut(0, textFrom);
+            System.arraycopy(fixedBucket, 0, bucket, 0, BUCKETS);
+            count = fixedCount;
             tokens = 0;
             boolean fine = cut(textFrom, textTo);
             textTo = textFrom;
             if (fine) {
-                shapeWords();
+                forgetMeanings();
+                shapeWords(fixedCount);
             }
             return fine;
         }
@@ -554,15 +561,21 @@ public final class SafeCode {
             return true;
         }
 
+        /** An earlier text may have had classes and labels of these names. */
+        private void forgetMeanings() {
+            for (int w = 0; w < fixedCount; w++) {
+                int c = w - W_OBJECT;
+                first[w] = c >= 0 && c < KNOWN_CLASSES ? c : -1;
+                second[w] = -1;
+            }
+        }
+
         /** The parts of words are words too: they come behind, while this still goes on. */
-        private void shapeWords() {
-            for (int w = 0; w < MAX_WORDS && w < count; w++) {
+        private void shapeWords(int from) {
+            for (int w = from; w < MAX_WORDS && w < count; w++) {
                 first[w] = -1;
                 second[w] = -1;
                 shape[w] = (byte) shapeOf(w);
-            }
-            for (int c = 0; c < KNOWN_CLASSES; c++) {
-                first[W_OBJECT + c] = c;
             }
         }
 
