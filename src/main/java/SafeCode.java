@@ -30,8 +30,11 @@ public final class SafeCode {
     private static final int STACK = MAX_LOCALS;
     private static final int SLOTS = MAX_LOCALS + MAX_STACK;
     private static final int MAX_ENDS = 7 + 3 * MAX_CODE;
-    // More than any text can need: each round but the last one makes something known that was not.
-    private static final int MANY_ROUNDS = 1000000;
+    private static final int WAIT_WORDS = MAX_CODE / 64;
+    // More than any text can need. Each round of the heights and types but the last one changes something: less than
+    // 2^20 can. In the proof what is looked at again was waked by a change: a slot has less than 2^12, all the slots of
+    // all states less than 2^27, the rest less than 2^23, each of which wakes at most all of 2^10 instructions.
+    private static final long MANY_ROUNDS = 1L << 40;
 
     private static final int MAX_INPUT = 256;
     private static final int MAX_OUTPUT = 256;
@@ -1459,7 +1462,7 @@ public final class SafeCode {
             }
             heights[start] = 1;
             changed = true;
-            for (int round = 0; round < MANY_ROUNDS && changed; round++) {
+            for (long round = 0; round < MANY_ROUNDS && changed; round++) {
                 changed = false;
                 for (int i = start; i < end; i++) {
                     spreadHeights(i);
@@ -1522,7 +1525,7 @@ public final class SafeCode {
             }
             arrive(start, bodies.locals[b], 0);
             changed = true;
-            for (int round = 0; round < MANY_ROUNDS && changed; round++) {
+            for (long round = 0; round < MANY_ROUNDS && changed; round++) {
                 changed = false;
                 for (int i = start; i < end; i++) {
                     if (waiting[i]) {
@@ -1876,7 +1879,8 @@ public final class SafeCode {
         final long[] values = new long[MAX_CODE * SLOTS];
         final long[] facts = new long[MAX_CODE * SLOTS];
         final boolean[] reached = new boolean[MAX_CODE];
-        final boolean[] waiting = new boolean[MAX_CODE];
+        // Bit i & 63 of word i >> 6: instruction i is to be looked at.
+        private final long[] waiting = new long[WAIT_WORDS];
         final long[] value = new long[SLOTS];
         final long[] fact = new long[SLOTS];
         private int locals;
@@ -1889,8 +1893,26 @@ public final class SafeCode {
         void clear() {
             for (int i = 0; i < MAX_CODE; i++) {
                 reached[i] = false;
-                waiting[i] = false;
             }
+            Arrays.fill(waiting, 0L);
+        }
+
+        void wake(int i) {
+            waiting[i >> 6] |= 1L << (i & 63);
+        }
+
+        /** The first instruction from there on that waits, and then waits no more; -1 if none does. */
+        int takeWaiting(int from) {
+            long bits = -1L << (from & 63);
+            for (int w = from >> 6; w < WAIT_WORDS; w++) {
+                bits &= waiting[w];
+                if (bits != 0L) {
+                    waiting[w] ^= Long.lowestOneBit(bits);
+                    return (w << 6) + Long.numberOfTrailingZeros(bits);
+                }
+                bits = -1L;
+            }
+            return -1;
         }
 
         /** Works on the state of instruction i from now on. */
@@ -1981,7 +2003,10 @@ public final class SafeCode {
             for (int s = STACK; s < STACK + height; s++) {
                 news |= joinSlot(row + s, value[s], fact[s], fresh);
             }
-            wake(i, news);
+            if (news) {
+                reached[i] = true;
+                wake(i);
+            }
         }
 
         /** Joins the arguments from slot low on into the beginning of a body, the first being these sites alone if any. */
@@ -1995,13 +2020,9 @@ public final class SafeCode {
                 long f = given ? fact[low + k] & KIND_BITS : 0L;
                 news |= joinSlot(row + k, v, f, fresh);
             }
-            wake(i, news);
-        }
-
-        private void wake(int i, boolean news) {
             if (news) {
                 reached[i] = true;
-                waiting[i] = true;
+                wake(i);
             }
         }
 
@@ -2032,9 +2053,10 @@ public final class SafeCode {
         final long[] results = new long[MAX_BODIES];
         final boolean[] ended = new boolean[MAX_BODIES];
         final long[] thrownBy = new long[MAX_BODIES];
-        boolean fieldsChanged;
-        boolean arraysChanged;
-        boolean bodiesChanged;
+        // Bit k: something is known of field k, of site k as an array, of body k that was not.
+        long changedFields;
+        long changedArrays;
+        long changedBodies;
 
         /** What is there before anything is known: no number, or no site and no NULL. */
         static long nothing(boolean number) {
@@ -2063,32 +2085,42 @@ public final class SafeCode {
         void addField(int s, int f, long v, boolean number) {
             int at = s * MAX_FIELDS + f;
             long joined = join(fields[at], v, number);
-            fieldsChanged = fieldsChanged || joined != fields[at];
-            fields[at] = joined;
+            if (joined != fields[at]) {
+                fields[at] = joined;
+                changedFields |= 1L << f;
+            }
         }
 
         void addElement(int s, long v, boolean number) {
             long joined = join(elements[s], v, number);
-            arraysChanged = arraysChanged || joined != elements[s];
-            elements[s] = joined;
+            if (joined != elements[s]) {
+                elements[s] = joined;
+                changedArrays |= 1L << s;
+            }
         }
 
         void addLengths(int s, long range) {
             long joined = Ranges.join(lengths[s], range);
-            arraysChanged = arraysChanged || joined != lengths[s];
-            lengths[s] = joined;
+            if (joined != lengths[s]) {
+                lengths[s] = joined;
+                changedArrays |= 1L << s;
+            }
         }
 
         void addEnd(int b, long v, boolean number) {
             long joined = join(results[b], v, number);
-            bodiesChanged = bodiesChanged || joined != results[b] || !ended[b];
-            results[b] = joined;
-            ended[b] = true;
+            if (joined != results[b] || !ended[b]) {
+                results[b] = joined;
+                ended[b] = true;
+                changedBodies |= 1L << b;
+            }
         }
 
         void addThrown(int b, long thrown) {
-            bodiesChanged = bodiesChanged || (thrownBy[b] | thrown) != thrownBy[b];
-            thrownBy[b] |= thrown;
+            if ((thrownBy[b] | thrown) != thrownBy[b]) {
+                thrownBy[b] |= thrown;
+                changedBodies |= 1L << b;
+            }
         }
     }
 
@@ -2100,7 +2132,8 @@ public final class SafeCode {
         final Store store = new Store();
         final int[] found = new int[MAX_CODE];
         final long[] escaping = new long[MAX_CODE];
-        // Of cast and is the sites that are of the type, of a catch those that it takes, of an array site those it can hold.
+        // Of cast and is the sites that are of the type, of call and send the bodies; of a catch the sites that it takes, of
+        // an array site those that it can hold.
         private final long[] suiting = new long[MAX_CODE];
         private final long[] caughtBy = new long[MAX_CATCHES];
         private final long[] heldBy = new long[MAX_SITES];
@@ -2124,17 +2157,14 @@ public final class SafeCode {
             findSuiting();
             int main = program.bodies.main;
             states.enter(program.bodies.start[main], program.bodies.locals[main], STACK, 0, 0L);
-            boolean busy = true;
-            for (int round = 0; round < MANY_ROUNDS && busy; round++) {
-                busy = false;
-                for (int i = 0; i < program.count; i++) {
-                    if (states.waiting[i]) {
-                        states.waiting[i] = false;
-                        busy = true;
-                        look(i);
-                    }
+            int i = states.takeWaiting(0);
+            for (long round = 0; round < MANY_ROUNDS && i >= 0; round++) {
+                look(i);
+                i = states.takeWaiting(i + 1);
+                if (i < 0) {
+                    wakeUsers();
+                    i = states.takeWaiting(0);
                 }
-                wakeUsers();
             }
         }
 
@@ -2144,6 +2174,8 @@ public final class SafeCode {
                 escaping[i] = 0L;
                 if (OPERANDS[program.op[i]] == OPERAND_T) {
                     suiting[i] = program.sitesBelow(program.first[i]);
+                } else if (program.op[i] == CALL || program.op[i] == SEND) {
+                    suiting[i] = bodiesMeant(i);
                 }
             }
             for (int c = 0; c < program.catchCount; c++) {
@@ -2156,23 +2188,47 @@ public final class SafeCode {
             }
         }
 
+        /** The bodies that a call or send may run. */
+        private long bodiesMeant(int i) {
+            int b = program.first[i];
+            long meant = program.op[i] == CALL ? 1L << b : 0L;
+            for (int c = 0; c < program.classes.count && program.op[i] == SEND; c++) {
+                int runs = program.bodies.running(c, b);
+                meant |= runs < 0 ? 0L : 1L << runs;
+            }
+            return meant;
+        }
+
         /** What uses something that has changed beside the states is looked at again. */
         private void wakeUsers() {
-            if (!store.fieldsChanged && !store.arraysChanged && !store.bodiesChanged) {
+            if ((store.changedFields | store.changedArrays | store.changedBodies) == 0L) {
                 return;
             }
             for (int i = 0; i < program.count; i++) {
-                int op = program.op[i];
-                boolean uses = op == GET && store.fieldsChanged
-                    || (op == LENGTH || op == ALOAD || op == ASTORE) && store.arraysChanged
-                    || (op == CALL || op == SEND) && store.bodiesChanged;
-                if (uses && states.reached[i]) {
-                    states.waiting[i] = true;
+                if (states.reached[i] && usesChanged(i)) {
+                    states.wake(i);
                 }
             }
-            store.fieldsChanged = false;
-            store.arraysChanged = false;
-            store.bodiesChanged = false;
+            store.changedFields = 0L;
+            store.changedArrays = 0L;
+            store.changedBodies = 0L;
+        }
+
+        private boolean usesChanged(int i) {
+            switch (program.op[i]) {
+                case GET:
+                    return (store.changedFields >>> program.first[i] & 1L) != 0L;
+                case LENGTH:
+                case ALOAD:
+                case ASTORE:
+                    int array = STACK + program.height[i] - program.takes(i);
+                    return (store.changedArrays & states.values[i * SLOTS + array]) != 0L;
+                case CALL:
+                case SEND:
+                    return (store.changedBodies & suiting[i]) != 0L;
+                default:
+                    return false;
+            }
         }
 
         private void bring(int i) {
