@@ -31,9 +31,10 @@ public final class SafeCode {
     private static final int SLOTS = MAX_LOCALS + MAX_STACK;
     private static final int MAX_ENDS = 7 + 3 * MAX_CODE;
     private static final int WAIT_WORDS = MAX_CODE / 64;
-    // More than any text can need. Each round of the heights and types but the last one changes something: less than
-    // 2^20 can. In the proof what is looked at again was waked by a change: a slot has less than 2^12, all the slots of
-    // all states less than 2^27, the rest less than 2^23, each of which wakes at most all of 2^10 instructions.
+    // Far above what any text can need. Each round of the heights and types but the last one changes something, which
+    // less than 2^20 can. In the proof each look but the first one is due to a change: each slot of a state has less than
+    // 2^12, all of them less than 2^27, and what is beside the states less than 2^23, each of which wakes at most the 2^10
+    // instructions: less than 2^34 looks.
     private static final long MANY_ROUNDS = 1L << 40;
 
     private static final int MAX_INPUT = 256;
@@ -2158,7 +2159,7 @@ public final class SafeCode {
             int main = program.bodies.main;
             states.enter(program.bodies.start[main], program.bodies.locals[main], STACK, 0, 0L);
             int i = states.takeWaiting(0);
-            for (long round = 0; round < MANY_ROUNDS && i >= 0; round++) {
+            for (long looks = 0; looks < MANY_ROUNDS && i >= 0; looks++) {
                 look(i);
                 i = states.takeWaiting(i + 1);
                 if (i < 0) {
