@@ -1998,11 +1998,12 @@ public final class SafeCode {
             boolean fresh = !reached[i];
             boolean news = fresh;
             int row = i * SLOTS;
-            for (int s = 0; s < locals; s++) {
-                news |= joinSlot(row + s, value[s], fact[s], fresh);
-            }
-            for (int s = STACK; s < STACK + height; s++) {
-                news |= joinSlot(row + s, value[s], fact[s], fresh);
+            for (int s = 0; s < STACK + height; s++) {
+                // Most slots bring what is there already.
+                boolean other = fresh || value[s] != values[row + s] || fact[s] != facts[row + s];
+                if (other && (s < locals || s >= STACK)) {
+                    news |= joinSlot(row + s, value[s], fact[s], fresh);
+                }
             }
             if (news) {
                 reached[i] = true;
