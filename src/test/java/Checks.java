@@ -2,13 +2,21 @@
 final class Checks {
     private int wrong;
     private int right;
+    private int sentences;
+    private String sentence = "";
+
+    /** The answers from here on are due by this sentence of the document. */
+    void sentence(String told) {
+        sentence = " [" + told + "]";
+        sentences++;
+    }
 
     void due(String call, long got, long want) {
         if (got == want) {
             right++;
         } else {
             wrong++;
-            System.out.println(call + " answered " + got + ", due is " + want);
+            System.out.println(call + " answered " + got + ", due is " + want + sentence);
         }
     }
 
@@ -16,12 +24,38 @@ final class Checks {
         due(call, got ? 1 : 0, want ? 1 : 0);
     }
 
+    /** A new object loads the text without a fault. */
+    SafeCode fine(String text) {
+        return fault(0, -1, text);
+    }
+
+    /** A new object finds this fault in the text, at the token behind the mark @. */
+    SafeCode fault(int fault, String marked) {
+        int mark = marked.indexOf('@');
+        return fault(fault, tokens(marked.substring(0, mark)), marked.substring(0, mark) + marked.substring(mark + 1));
+    }
+
+    SafeCode fault(int fault, int at, String text) {
+        SafeCode x = new SafeCode();
+        String told = text.length() < 400 ? text : text.substring(0, 100) + " .. " + text.substring(text.length() - 200);
+        due("load of " + told, load(x, text), fault);
+        due("faultAt of " + told, x.faultAt(), at);
+        return x;
+    }
+
     /** Ends the test, with exit code 1 if an answer was wrong. */
     void close() {
-        System.out.println(right + " answers are as due, " + wrong + " are not");
+        System.out.println(right + " answers are as due, " + wrong + " are not"
+            + (sentences == 0 ? "" : ", by " + sentences + " sentences of the document"));
         if (wrong != 0 || right == 0) {
             System.exit(1);
         }
+    }
+
+    /** How many tokens a text without remarks has. */
+    static int tokens(String text) {
+        String apart = text.replaceAll("[(){}:]", " $0 ").trim();
+        return apart.isEmpty() ? 0 : apart.split("\\s+").length;
     }
 
     /** Feeds a text and ends it. */
