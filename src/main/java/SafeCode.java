@@ -3168,7 +3168,7 @@ public final class SafeCode {
                 long told = facts >>> k;
                 boolean wrong = (told & 1L) != 0L && (!number || v >= (int) local)
                     || (told >>> UNDER_SHIFT & 1L) != 0L && (length < 0 || v >= length)
-                    || (told >>> LENGTH_SHIFT & 1L) != 0L && v != length
+                    || (told >>> LENGTH_SHIFT & 1L) != 0L && (length < 0 || v != length)
                     || (told >>> SIZED_SHIFT & 1L) != 0L && (!number || own < 0 || own != (int) local);
                 if (wrong) {
                     return false;

@@ -136,7 +136,7 @@ final class EdgeNamesTest {
         String up = MAIN + A + "method m ( int A[] ) A 3 { null give } } class B of A { } class C of B { ";
         C.fine(up + "method m ( int A[] ) A 12 { null give } }");
         for (String head : new String[] {"method m ( int A[] ) B 3", "method m ( int A[] ) none 3", "method m ( int A ) A 3",
-            "method m ( int int[] ) A 3", "method m ( int ) A 3", "method m ( int A[] int ) A 4", "method m ( A[] int ) A 3",
+            "method m ( int int[] ) A 3", "method m ( A A[] ) A 3", "method m ( int ) A 3", "method m ( int A[] int ) A 4", "method m ( A[] int ) A 3",
             "method m ( ) A 3", "method m ( int Nope ) A 3", "method m ( int A[] ) Nope 3", "static m ( int A[] ) A 3",
             "static m ( A int A[] ) A 3"}) {
             fault(up + head.replace("m (", "@m (") + " { null give } }");

@@ -18,6 +18,9 @@ final class EdgeProofTest {
     public static void main(String[] args) {
         sites();
         slotsJoin();
+        setsJoin();
+        leastSolution();
+        allAreLookedAt();
         beginnings();
         changing();
         changingSized();
@@ -206,6 +209,92 @@ final class EdgeProofTest {
         noFacts(3, 2);
     }
 
+    private static void setsJoin() {
+        C.sentence("the sets' common elements");
+        String facts = "push 9 array int store 3 read store 0 read store 1 load 0 load 1 ge z read store 2 load 2 load 3 length ge z load 3 length store 4 "
+            + "load 0 load 2 load 4 push 6 store 5 load 5 array int ";
+        // on both ways: all of them stay
+        load(facts + "read push 0 lt a push 1 pop a : #0 goto y y : back z : back");
+        facts(0, 0, -1, 2, 0, 0, 0);
+        facts(0, 2, -1, 0, 8, 0, 0);
+        facts(0, 4, -1, 0, 0, 8, 0);
+        facts(0, 12, 0, 2, 0, 0, 0);
+        facts(0, 13, 2, 0, 8, 0, 0);
+        facts(0, 14, 4, 0, 0, 8, 0);
+        facts(0, 15, -1, 0, 0, 0, 32);
+        range(0, 5, 6, 6);
+        // on one way alone: they are gone
+        load(facts + "read push 0 lt a inc 1 1 null store 3 inc 5 1 a : #0 goto y y : back z : back");
+        noFacts(0, 0);
+        noFacts(0, 2);
+        noFacts(0, 4);
+        facts(0, 12, 0, 0, 0, 0, 0);
+        facts(0, 13, 2, 0, 0, 0, 0);
+        facts(0, 14, 4, 0, 0, 0, 0);
+        noFacts(0, 15);
+        // whichever way comes first
+        load(facts + "goto c a : #0 goto y y : back c : read push 0 lt a inc 1 1 null store 3 inc 5 1 goto a z : back");
+        noFacts(0, 0);
+        noFacts(0, 2);
+        noFacts(0, 4);
+        noFacts(0, 15);
+    }
+
+    private static void leastSolution() {
+        C.sentence("All this is the LEAST solution of what follows");
+        String head = "class A of Object { field f int field g int field h int } class Main of Object { static main ( ) none 2 { ";
+        // a field, an element, a length, a parameter and a result grow around a loop; what stands beside them does not
+        whole(head + "new A store 0 a : load 0 load 0 get A.h #0 push 1 add put A.h load 0 get A.g #1 pop goto a } }");
+        range(0, 13, MIN, MAX);
+        range(1, 12, 0, 0);
+        whole(head + "push 1 array int store 1 push 1 array int store 0 a : load 0 push 0 load 0 push 0 aload #0 push 1 add astore load 1 push 0 aload #1 pop goto a } }");
+        range(0, 14, MIN, MAX);
+        range(1, 12, 0, 0);
+        whole(head + "push 5 array int store 1 a : load 1 length #0 push 1 add #1 array int store 1 goto a } }");
+        range(0, 12, 0, MAX);
+        errors(1, 256 + 4);
+        C.due("lengths(0, 0)", x.lengths(0, 0), 5);
+        C.due("lengths(0, 1)", x.lengths(0, 1), 5);
+        C.due("lengths(1, 0)", x.lengths(1, 0), 0);
+        C.due("lengths(1, 1)", x.lengths(1, 1), MAX);
+        whole(head + "push 0 store 0 a : load 0 call Main.up #0 store 0 goto a } static up ( int ) int 1 { #1 load 0 push 1 add give } }");
+        range(0, 12, MIN, MAX);
+        range(1, 0, MIN, MAX);
+        // no more than is told: 0 to 10, and not one more
+        whole(head + "push 0 store 0 a : load 0 push 10 ge b load 0 call Main.up store 0 goto a b : #0 back } static up ( int ) int 1 { #1 load 0 push 1 add #2 give } }");
+        range(0, 0, 10, 10);
+        range(1, 0, 0, 9);
+        range(2, 12, 1, 10);
+        // a field of refs: what is put late is found by what was looked at early
+        whole("class A of Object { field f int field g A } class Main of Object { static main ( ) none 1 { new A store 0 load 0 get A.g #0 pop call Main.q load 0 new A put A.g back } "
+            + "static q ( ) none 0 { back } }");
+        refs(0, 12, NULL | 2);
+        // the first instruction of all is come to again
+        whole("class A of Object { static s ( int ) none 1 { a : #0 inc 0 1 goto a } } " + Checks.main(0, "push 0 call A.s back"));
+        range(0, 0, MIN, MAX);
+    }
+
+    private static void allAreLookedAt() {
+        C.sentence("For each instruction there is a state or none (NOT REACHED)");
+        whole(Checks.main(1, "push 0 store 0 " + "inc 0 1 ".repeat(1020) + "goto a a : back"));
+        C.due("size(0)", x.size(0), 1024);
+        for (int i = 0; i < 1024; i++) {
+            C.due("errors(" + i + ")", x.errors(i), i < 1023 ? 256 : 768);
+            C.due("kind(" + i + ", 0)", x.kind(i, 0), i < 2 ? 0 : 1);
+        }
+        C.due("run", x.run(2000), 0);
+        C.due("steps()", x.steps(), 1024);
+        C.due("strays()", x.strays(), 0);
+        // however far the way goes
+        for (int gap = 0; gap < 300; gap++) {
+            whole(Checks.main(0, "goto z " + "back ".repeat(gap) + "y : back z : goto y"));
+            C.due("errors(0)", x.errors(0), 256);
+            C.due("errors(y)", x.errors(gap + 1), 768);
+            C.due("errors(z)", x.errors(gap + 2), 256);
+            C.due("errors between", x.errors((gap + 1) / 2), gap == 0 ? 256 : 0);
+        }
+    }
+
     private static void beginnings() {
         C.sentence("A body whose call (or main) is reached begins with its parameters as slots without COPY and sets, all else unset");
         load("#0 push 3 array int store 0 read store 1 load 1 load 0 length lt a back a : load 1 #1 load 0 call Main.q back",
@@ -275,6 +364,7 @@ final class EdgeProofTest {
         facts(2, 2, -1, 2, 0, 0, 0);
         facts(2, 12, 0, 2, 0, 0, 0);
         facts(3, 13, 0, 2, 0, 0, 0);
+        noFacts(3, 12);
         range(3, 12, 5, 5);
         range(4, 12, 5, 5);
         // what is stored is no fact of itself: 0 is less than 1, and then 1 is 0
@@ -593,6 +683,9 @@ final class EdgeProofTest {
         errors(0, 256);
         load(under + "load 0 push -1 lt z load 1 load 0 #0 aload pop back z : back");
         errors(0, 256 + 2);
+        // an array in local 0
+        load("read array int store 0 read store 1 load 1 load 0 length ge z load 1 push 0 lt z load 0 load 1 #0 aload pop back z : back");
+        errors(0, 256);
         // the array of another local, a slot without COPY, an index that was made anew
         load(under + "load 0 push 0 lt z load 2 load 0 #0 aload pop back z : back");
         errors(0, 256 + 2);
@@ -999,6 +1092,19 @@ final class EdgeProofTest {
             unsetAt(odd, 0);
             unsetAt(odd, 12);
         }
+        // the first of all slots is there: no other one answers as it
+        whole("class A of Object { static s ( int ) none 2 { #0 push 1 #1 pop back } } " + Checks.main(1, "push 44 call A.s #2 back push 1 pop back"));
+        range(0, 0, 44, 44);
+        unset(0, 1);
+        unset(0, 2);
+        unset(0, 12);
+        unset(1, 13);
+        unset(2, 0);
+        unsetAt(AT[2] + 1, 0);
+        for (int odd : new int[] {MIN, -20, -1, 20, 40, MAX}) {
+            unset(0, odd);
+            unsetAt(odd < 0 ? odd : odd + 1000, 0);
+        }
         // locals that the body has not, though another one has them
         whole("class Main of Object { static main ( ) none 2 { push 1 store 1 #0 back } static q ( int int int ) none 3 { #1 back } }");
         unset(0, 0);
@@ -1054,6 +1160,12 @@ final class EdgeProofTest {
         }
         for (int which : new int[] {MIN, -1, 2, MAX}) {
             C.due("lengths(0, " + which + ")", x.lengths(0, which), -1);
+        }
+        // as many sites as can be
+        load("push 3 array int pop ".repeat(48) + "back");
+        for (int s = -1; s < 56; s++) {
+            C.due("lengths(" + s + ", 0)", x.lengths(s, 0), s >= 0 && s < 48 ? 3 : -1);
+            C.due("lengths(" + s + ", 1)", x.lengths(s, 1), s >= 0 && s < 48 ? 3 : -1);
         }
     }
 }

@@ -10,6 +10,7 @@ final class EdgeRunTest {
 
     public static void main(String[] args) {
         firstValues();
+        whatIsBelow();
         calculations();
         shifts();
         comparisons();
@@ -94,6 +95,34 @@ final class EdgeRunTest {
             C.due("run", x.run(200), 0);
             puts(x, 0, 0, 0, 0);
         }
+    }
+
+    /** Lines that leave the stack as it was. */
+    private static final String[] NEUTRAL = {
+        "read pop", "null pop", "load 0 pop", "push 3 store 0", "inc 0 1", "push 3 dup pop pop", "push 3 push 4 swap pop pop", "push 6 push 3 add pop",
+        "push 6 push 3 sub pop", "push 6 push 3 mul pop", "push 6 push 3 div pop", "push 6 push 3 rem pop", "push 6 push 3 and pop", "push 6 push 3 or pop",
+        "push 6 push 3 xor pop", "push 6 push 3 shl pop", "push 6 push 3 shr pop", "push 6 neg pop", "goto x x :", "push 1 push 2 eq x x :",
+        "push 1 push 2 ne x x :", "push 1 push 2 lt x x :", "push 1 push 2 le x x :", "push 1 push 2 gt x x :", "push 1 push 2 ge x x :", "null isnull x x :",
+        "new A isnull x x :", "null notnull x x :", "new A notnull x x :", "null null same x x :", "new A null other x x :", "new A pop",
+        "push 2 array int pop", "push 2 array int length pop", "push 2 array int push 0 aload pop", "push 2 array A push 0 aload pop",
+        "push 2 array int push 0 push 9 astore", "push 2 array A push 0 new A astore", "new A get A.n pop", "new A get A.a pop", "new A push 3 put A.n",
+        "new A null put A.a", "new B cast A pop", "null cast A pop", "new B is A pop", "push 1 push 2 call Main.q pop", "call Main.r",
+        "new A push 1 send A.m pop", "push 3 write"};
+
+    private static void whatIsBelow() {
+        C.sentence("INSTRUCTIONS take and leave on the stack: what is below stays");
+        String bodies = "static q ( int int ) int 3 { push 9 load 0 load 1 sub give } static r ( ) none 2 { push 1 push 2 push 3 back } ";
+        for (String lines : NEUTRAL) {
+            SafeCode x = load("push 5 store 0 push 77 push 78 " + lines + " write write back", bodies);
+            C.due("run of " + lines, x.run(99), 0);
+            int n = x.written();
+            C.due("written() of " + lines, n, lines.endsWith("write") ? 3 : 2);
+            C.due("out of " + lines, x.out(n - 2), 78);
+            C.due("out of " + lines, x.out(n - 1), 77);
+            C.due("strays()", x.strays(), 0);
+        }
+        // whether it is null does not hang on what is below
+        gives("push 0 null isnull a push 5 write a : null new A isnull b push 6 write b : null null notnull c push 7 write c : push 1 null isnull d push 8 write d :", 6, 7);
     }
 
     private static void calculations() {

@@ -37,6 +37,9 @@ final class EdgeTypesTest {
         joins();
         beginnings();
         alongEdges();
+        leastSolution();
+        left();
+        dupAndSwap();
         whateverWasTaken();
         elementsLeft();
         loads();
@@ -221,6 +224,7 @@ final class EdgeTypesTest {
         fine("read read read read read read read read a : pop b : back c : pop back catch a b c Error");
         fault("read read read read read read read read a : pop b : back c : pop @pop back catch a b c Error");
         fault("a : read pop b : read pop c : @back catch a b c Error");
+        C.fault(4, "class Main of Object { static main ( ) none 0 { a : @read pop b : back catch a b a Error } }");
         fine("a : read b : c : pop back catch a b c Error");
         // a catch of instructions that nothing comes to leads nowhere
         fine("back a : read pop b : back c : pop pop pop back catch a b c Error");
@@ -391,6 +395,52 @@ final class EdgeTypesTest {
             "a : read pop b : back c : get E.f pop back catch a b c F catch a b c G"));
         C.fault(4, "class E of Error { field f int } class F of E { } " + Checks.main(0,
             "a : read pop b : back c : @get E.f pop back catch a b c F catch a b c Error"));
+    }
+
+    private static void leastSolution() {
+        C.sentence("what comes to an instruction joins (the least such solution)");
+        // what comes around a loop changes what was there before it
+        fault("push 1 store 0 a : read pop @inc 0 1 null store 0 goto a");
+        fault("new B store 0 a : read pop load 0 @get B.h pop new A store 0 goto a");
+        fine("new B store 0 a : read pop load 0 get A.f pop new A store 0 goto a");
+        fault("null a : read pop dup @isnull b b : pop push 1 goto a");
+        fault("push 1 store 0 push 1 store 1 push 1 store 2 a : read pop @inc 2 1 load 1 store 2 load 0 store 1 null store 0 goto a");
+        // the first instruction of all can be come to again
+        C.fault(4, "class Main of Object { static s ( int ) none 1 { a : @inc 0 1 null store 0 goto a } static main ( ) none 0 { back } }");
+        C.fault(4, "class Main of Object { static main ( ) none 0 { a : @read goto a } }");
+    }
+
+    /** What each instruction leaves, and its type. */
+    private static final String[][] LEFT = {
+        {"push 1", "int"}, {"read", "int"}, {"null", "null"}, {"new B", "B"}, {"push 1 array int", "int[]"}, {"push 1 array B", "B[]"},
+        {"push 1 neg", "int"}, {"push 1 push 2 add", "int"}, {"push 1 push 2 sub", "int"}, {"push 1 push 2 mul", "int"}, {"push 1 push 2 div", "int"},
+        {"push 1 push 2 rem", "int"}, {"push 1 push 2 and", "int"}, {"push 1 push 2 or", "int"}, {"push 1 push 2 xor", "int"},
+        {"push 1 push 2 shl", "int"}, {"push 1 push 2 shr", "int"}, {"null length", "int"}, {"push 1 array A push 0 aload", "A"},
+        {"push 1 array int push 0 aload", "int"}, {"null get A.f", "int"}, {"null get A.g", "A"}, {"null get B.h", "B[]"}, {"null get B.g", "A"},
+        {"new A cast E", "E"}, {"new B cast A", "A"}, {"null cast int[]", "int[]"}, {"null cast A[]", "A[]"}, {"null is A", "int"},
+        {"push 1 null call Main.s", "int"}, {"null push 1 send A.m", "A"}, {"new B push 1 send B.m", "A"}, {"new B store 3 load 3", "B"}};
+
+    private static void left() {
+        C.sentence("INSTRUCTIONS take and leave on the stack");
+        for (String[] l : LEFT) {
+            for (String u : TYPES) {
+                if (!u.equals("null") && !u.equals("UNSET")) {
+                    takesAs(u, l[0] + " ", isBelow(l[1], u));
+                }
+            }
+        }
+    }
+
+    private static void dupAndSwap() {
+        C.sentence("dup (a: a a)   swap (a b: b a)");
+        fine("new A dup get A.f pop get A.f pop back");
+        fault("push 1 dup @isnull a a : back");
+        fault("push 1 dup pop @isnull a a : back");
+        fine("push 1 new A swap neg pop get A.f pop back");
+        fault("push 1 new A swap @get A.f pop back");
+        fault("push 1 new A swap pop @neg pop back");
+        fault("push 1 push 1 null swap pop @neg pop back");
+        fine("null push 1 push 1 swap neg pop neg pop isnull a a : back");
     }
 
     private static void whateverWasTaken() {
