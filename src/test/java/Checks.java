@@ -1,14 +1,17 @@
+import java.util.HashSet;
+import java.util.Set;
+
 /** What the tests share: feeding texts, and counting the answers that are not due. */
 final class Checks {
     private int wrong;
     private int right;
-    private int sentences;
+    private final Set<String> sentences = new HashSet<>();
     private String sentence = "";
 
     /** The answers from here on are due by this sentence of the document. */
     void sentence(String told) {
         sentence = " [" + told + "]";
-        sentences++;
+        sentences.add(told);
     }
 
     void due(String call, long got, long want) {
@@ -46,7 +49,7 @@ final class Checks {
     /** Ends the test, with exit code 1 if an answer was wrong. */
     void close() {
         System.out.println(right + " answers are as due, " + wrong + " are not"
-            + (sentences == 0 ? "" : ", by " + sentences + " sentences of the document"));
+            + (sentences.isEmpty() ? "" : ", by " + sentences.size() + " sentences of the document"));
         if (wrong != 0 || right == 0) {
             System.exit(1);
         }
